@@ -1054,19 +1054,20 @@ public final class PathTrust {
             return list == null ? emptyList : list;
         }
 
-        private static int pairOf(int agent, int other) {
-            boolean exists = agent >= 0 && agent < MOST_NAMES && other >= 0 && other < MOST_NAMES;
-            return exists ? agent * MOST_NAMES + other : NONE;
-        }
-
         private int trustIn(int agent, int other) {
-            int pair = pairOf(agent, other);
-            return pair >= 0 && pair < trusts.length ? trusts[pair] : NONE;
+            if (agent < 0 || agent >= MOST_NAMES || other < 0 || other >= MOST_NAMES) {
+                return NONE;
+            }
+            int pair = agent * MOST_NAMES + other;
+            return pair < trusts.length ? trusts[pair] : NONE;
         }
 
         private void putTrust(int agent, int other, int trust) {
-            int pair = pairOf(agent, other);
-            if (pair >= 0 && pair < trusts.length) {
+            if (agent < 0 || agent >= MOST_NAMES || other < 0 || other >= MOST_NAMES) {
+                return;
+            }
+            int pair = agent * MOST_NAMES + other;
+            if (pair < trusts.length) {
                 trusts[pair] = trust;
             }
         }
@@ -1150,7 +1151,7 @@ public final class PathTrust {
             tally(agent, PROBES);
             int contradictions = 0;
             for (int row = 0; row < own; row++) {
-                if (list.get(row, R_WAY) == way && isContradictedBy(agent, row, own)) {
+                if (list.get(row, R_WAY) == way && judge(agent, row, own)) {
                     contradictions++;
                 }
             }
@@ -1158,7 +1159,7 @@ public final class PathTrust {
         }
 
         /** Judges a report by an own one, and returns whether that was a contradiction. */
-        private boolean isContradictedBy(int agent, int row, int own) {
+        private boolean judge(int agent, int row, int own) {
             Reports list = listOf(agent);
             int via = list.get(row, R_VIA);
             if (!isLinked(agent, via)) {
@@ -1222,7 +1223,7 @@ public final class PathTrust {
             int delivered = Math.min(many, queue.count);
             int accepted = 0;
             for (int index = 0; index < delivered; index++) {
-                if (isAccepted(index)) {
+                if (receive(index)) {
                     accepted++;
                 }
             }
@@ -1231,7 +1232,7 @@ public final class PathTrust {
         }
 
         /** Delivers a message, and returns whether it was not refused. */
-        private boolean isAccepted(int index) {
+        private boolean receive(int index) {
             int goal = queue.get(index, R_GOAL);
             if (refusal(index) != 0) {
                 tally(goal, REFUSED);
@@ -1244,7 +1245,7 @@ public final class PathTrust {
             int row = list.addCopy(queue, index);
             int own = list.find(goal, way);
             if (own != NONE) {
-                isContradictedBy(goal, row, own);
+                judge(goal, row, own);
             }
             return true;
         }
