@@ -111,7 +111,7 @@ public final class PathTrust {
             return PARSE_ERROR;
         }
         history.push(now);
-        now.copyFrom(trial);
+        now.become(trial);
         return now.agents.count;
     }
 
@@ -413,7 +413,7 @@ public final class PathTrust {
         checkWay(way);
         checkBounds(low, high);
         checkRange(end, LOW_END, HIGH_END);
-        trial.copyFrom(now);
+        trial.become(now);
         trial.makeProbe(agent, way, low, high);
         return believed(trial, agent, way, end);
     }
@@ -424,7 +424,7 @@ public final class PathTrust {
         checkWay(way);
         checkAgent(other);
         checkBounds(low, high);
-        trial.copyFrom(now);
+        trial.become(now);
         trial.makeProbe(agent, way, low, high);
         return trial.trustIn(agent, other);
     }
@@ -433,7 +433,7 @@ public final class PathTrust {
         checkAgent(agent);
         checkWay(way);
         checkRange(rounds, 0, MOST_ROUNDS);
-        trial.copyFrom(now);
+        trial.become(now);
         trial.makeRounds(rounds);
         int set = 0;
         for (int other = 0; other < trial.agents.count; other++) {
@@ -451,7 +451,7 @@ public final class PathTrust {
         if (ticks == 0) {
             return widthOf(now, agent, way, NONE);
         }
-        trial.copyFrom(now);
+        trial.become(now);
         trial.letPass(ticks);
         return widthOf(trial, agent, way, NONE);
     }
@@ -481,7 +481,7 @@ public final class PathTrust {
 
     public int bestThen(int agent) throws IndexOutOfBoundsException {
         checkAgent(agent);
-        trial.copyFrom(now);
+        trial.become(now);
         trial.deliverFirst(MOST_MESSAGES);
         return bestWay(trial, agent, BY_HIGH);
     }
@@ -597,7 +597,7 @@ public final class PathTrust {
             kept = new Desk();
             slots[slot] = kept;
         }
-        kept.copyFrom(now);
+        kept.become(now);
         return now.time;
     }
 
@@ -608,7 +608,7 @@ public final class PathTrust {
             throw new IllegalStateException("nothing is kept there");
         }
         history.push(now);
-        now.copyFrom(kept);
+        now.become(kept);
         return now.time;
     }
 
@@ -1024,7 +1024,7 @@ public final class PathTrust {
             time = 0;
         }
 
-        private void copyFrom(Desk other) {
+        private void become(Desk other) {
             for (int what = 0; what < RULES; what++) {
                 putRule(what, other.rule(what));
             }
@@ -1429,7 +1429,7 @@ public final class PathTrust {
                     before = new Desk();
                     desks[count] = before;
                 }
-                before.copyFrom(desk);
+                before.become(desk);
                 count++;
             }
         }
@@ -1448,7 +1448,7 @@ public final class PathTrust {
             if (count > 0 && count <= desks.length) {
                 Desk before = desks[count - 1];
                 if (before != null) {
-                    into.copyFrom(before);
+                    into.become(before);
                 }
                 count--;
             }

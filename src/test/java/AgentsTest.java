@@ -298,9 +298,9 @@ public final class AgentsTest {
         Check.is("promise 33: fewer hops, the same time", x.message(0, 5), 0);
         x.deliver(1);
         Check.is("the report with one hop took its place", Check.list(x, 1), "0 0 1 0 1 2 8;");
-        // c has the report of the time 1 still, b that of the time 4 already.
+        // c has the report of the time 1 still, b that of the time 2 already, which made no more hops.
         x.lose();
-        x.pass(3);
+        x.pass(1);
         x.probe(0, 0, 4, 4);
         x.share(0);
         x.deliver(1);

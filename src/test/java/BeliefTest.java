@@ -156,6 +156,10 @@ public final class BeliefTest {
         x.setTrust(0, 3, 6);
         Check.is("promise 23: three in one number", x.majority(0, 0), 13);
         Check.is("promise 24: one number", x.majorityBound(0, 0, 0) + "-" + x.majorityBound(0, 0, 1), "403-403");
+        x.probe(0, 1, 0, 999);
+        Check.is("promise 23: of another way", x.majority(0, 1), 1);
+        Check.is("promise 24: of this one behind that", x.majorityBound(0, 0, 0), 403);
+        Check.is("promise 24: 0 to 999", x.majorityBound(0, 1, 0) + "-" + x.majorityBound(0, 1, 1), "0-999");
     }
 
     private static final String FOUR = "rules drift 0 slack 0 least 0 age 20 hops 1;agent a;agent b;"
@@ -172,6 +176,12 @@ public final class BeliefTest {
         x.probe(0, 3, 350, 350);
         x.probe(0, 2, 99, 451);
         Check.is("promise 25: the lowest one of two", x.best(0, 0) + " " + x.best(0, 2), "1 1");
+        x.probe(0, 3, 0, 549);
+        x.probe(0, 1, 300, 350);
+        x.probe(0, 2, 301, 349);
+        Check.is("promise 25: the least sum is another's", x.best(0, 0) + " " + x.best(0, 1) + " " + x.best(0, 2), "2 3 3");
+        x.probe(0, 1, 200, 350);
+        x.probe(0, 2, 99, 451);
         x.probe(0, 3, 99, 349);
         Check.is("promise 25", x.best(0, 0) + " " + x.best(0, 1) + " " + x.best(0, 2), "3 2 3");
         PathTrust none = Check.made("rules drift 0 slack 0 least 0 age 20 hops 1;agent a;");
@@ -199,6 +209,12 @@ public final class BeliefTest {
         x.probe(0, 0, 10, 20);
         Check.is("promise 26: none", x.rivals(0), 0);
         Check.is("promise 26: of another agent", x.rivals(1), 14);
+        x.probe(0, 0, 0, 30);
+        x.probe(0, 1, 10, 20);
+        x.probe(0, 2, 25, 999);
+        x.probe(0, 3, 20, 999);
+        Check.is("promise 26: the best one is that by the high bound", x.rivals(0), 1);
+        Check.is("promise 27: the best one is that by the high bound", x.nextProbe(0), 0);
     }
 
     private static void nextProbe() {
@@ -252,6 +268,10 @@ public final class BeliefTest {
         x.setRule(0, 1);
         x.pass(1);
         Check.is("promise 29: r is 0-999 now", x.saved(0), 0);
+        x.forget(0, 0);
+        x.share(1);
+        x.deliver(100);
+        Check.is("promise 29: p is 299-421", x.saved(0) + " " + Check.belief(x, 0, 0), "1 299-421");
     }
 
     private static void agreeing() {

@@ -57,6 +57,7 @@ public final class ChangeTest {
         Check.is("promise 42: trusts", x.trust(0, 1) + " " + x.trust(0, 2), "-1 8");
         Check.is("promise 42: 0 to 999", x.probe(3, 0, 0, 999), 0);
         Check.is("promise 42: bounds", Check.list(x, 3), "1 1 1 0 0 150 160;3 3 0 0 3 0 999;");
+        via();
         PathTrust y = Check.made(TEXT + "probe b y 90 90;");
         y.share(1);
         y.share(2);
@@ -64,6 +65,18 @@ public final class ChangeTest {
         y.setTrust(0, 2, 1);
         // Judged in the order of the list: c's of x, confirmed, goes to 2; the other way is not judged.
         Check.is("promise 42: order", y.probe(0, 0, 200, 200) + " " + y.trust(0, 2), "1 2");
+    }
+
+    private static void via() {
+        // b has c's report via a, and a link with c, too.
+        PathTrust x = Check.made(TEXT);
+        x.exchange(2);
+        x.link(1, 2, true);
+        x.forget(1, 0);
+        Check.is("c's of y, via a", Check.list(x, 1), "2 0 2 1 0 20 30;");
+        Check.is("c's of x was a contradiction", x.trust(1, 0), 6);
+        Check.is("promise 42: it is about the trust in a", x.probe(1, 1, 40, 50) + " " + x.trust(1, 0) + " "
+                + x.trust(1, 2), "1 4 5");
     }
 
     private static void share() {

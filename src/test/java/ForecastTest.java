@@ -52,6 +52,8 @@ public final class ForecastTest {
         Check.is("promise 36: confirmed", x.trustIf(0, 0, 155, 155, 1), 9);
         Check.is("promise 36: and c contradicted", x.trustIf(0, 0, 155, 155, 2), 4);
         Check.is("promise 36: one number", x.trustIf(0, 0, 100, 150, 1), 9);
+        Check.is("promise 36: the low bound counts", x.trustIf(0, 0, 160, 180, 1) + " " + x.trustIf(0, 0, 161, 180, 1),
+                "9 6");
         Check.is("promise 36: one less", x.trustIf(0, 0, 100, 149, 1), 6);
         Check.is("promise 36: of another way", x.trustIf(0, 1, 155, 155, 1), 8);
         Check.is("promise 36: no link", x.trustIf(0, 0, 155, 155, 3), NONE);
@@ -141,8 +143,36 @@ public final class ForecastTest {
         Check.is("promise 40: all alike", x.mostUseful(0), 1);
         x.link(0, 1, false);
         Check.is("promise 40: all alike", x.mostUseful(0), 2);
+        sums();
         PathTrust noWays = Check.made("rules drift 0 slack 0 least 0 age 20 hops 3;agent a;agent b;agent c;link c b;");
         Check.is("promise 40: no ways", noWays.mostUseful(2) + " " + noWays.mostUseful(0), "1 -1");
+    }
+
+    private static void sums() {
+        PathTrust x = Check.made("rules drift 0 slack 0 least 0 age 20 hops 3;agent a;agent b;agent c;way p;way q;"
+                + "link a b;link a c;probe a p 0 700;probe a q 500 900;probe b p 0 100;probe b q 800 900;"
+                + "probe c p 0 90;probe c q 700 820;");
+        x.share(1);
+        x.share(2);
+        x.deliver(100);
+        // All: 90 and 20. Without b: 90 and 120. Without c: 100 and 100.
+        Check.is("promise 39", "" + x.widthWithout(0, 0, 1) + " " + x.widthWithout(0, 1, 1) + " " + x.widthWithout(0, 0, 2)
+                + " " + x.widthWithout(0, 1, 2), "90 120 100 100");
+        Check.is("promise 40: 210 and 200", x.mostUseful(0), 1);
+        x.pass(1);
+        x.probe(1, 1, 780, 900);
+        x.share(1);
+        x.deliver(100);
+        // Without b: 90 and 120. Without c: 100 and 120.
+        Check.is("promise 40: 210 and 220", x.mostUseful(0), 2);
+        x.pass(1);
+        x.probe(2, 0, 0, 80);
+        x.probe(1, 1, 730, 820);
+        x.share(1);
+        x.share(2);
+        x.deliver(100);
+        // Without b: 80 and 120. Without c: 100 and 90.
+        Check.is("promise 40: 200 and 190", x.mostUseful(0), 1);
     }
 
     private static void bestThen() {

@@ -113,6 +113,8 @@ public final class InputTest {
         x.keep(0);
         x.pass(7);
         x.writeBeliefs(0);
+        // What is tried out for a question must not come to the text.
+        x.beliefIf(0, 0, 5, 6, 0);
         String output = Check.output(x);
         Check.is("promise 4: a second text", Check.load(x, AB), 2);
         Check.is("promise 4: time, queue and links are those of the text",
@@ -225,6 +227,15 @@ public final class InputTest {
 
     private static void errorsOfTokens() {
         error("|Rules", 1);
+        error("|bules drift 1 slack 2 least 3 age 50 hops 2;", 1);
+        error("rules |erift 1 slack 2 least 3 age 50 hops 2;", 1);
+        error("rules drift 1 slack 2 least 3 age 50 |xops 2;", 1);
+        error(RULES + "|bgent a;", 1);
+        error(RULES + "|xay a;", 1);
+        error(AB + "|pink a b;", 1);
+        error(AB + "|brobe a x 1 2;", 1);
+        error(AB + "|probf a x 1 2;", 1);
+        error(AB + "link a b |brust 1;", 1);
         error("|\trules", 1);
         error("|\u00e9", 1);
         error("|\u0000", 1);
@@ -259,7 +270,8 @@ public final class InputTest {
         Check.is("promise 7: az", Check.findAgent(x, "az"), 2);
         Check.is("promise 8: az", Check.findWay(x, "az"), 0);
         Check.is("promise 8: zz", Check.findWay(x, "zz"), 1);
-        String[] none = {"", "zz", "z ", " z", "Z", "abcdefg", "abcde", "zaz", "z\n", "z\u0000", "agent", "\u00fa"};
+        String[] none = {"", "zz", "z ", " z", "Z", "abcdefg", "abcde", "zaz", "z\n", "z\u0000", "agent", "\u00fa",
+            "dabcdef", "habcdef", "`z", "\u009a", "a{", "bA"};
         for (String name : none) {
             Check.is("promise 7: none is " + name, Check.findAgent(x, name), PathTrust.NONE);
             Check.is("promise 7: the buffer is empty", Check.inputLength(x), 0);

@@ -53,6 +53,14 @@ public final class OutputTest {
         Check.is("promise 59: it replaces", x.writeReports(1) + Check.output(x), "19abcdef/x 150-160@0\n");
         x.forget(1, 0);
         Check.is("promise 59: none", x.writeReports(1) + Check.output(x), "0");
+        x.forget(2, 1);
+        x.forget(2, 2);
+        x.forget(0, 1);
+        x.relay(0);
+        x.deliver(100);
+        x.writeReports(2);
+        // The trust in a is the same for both, and its own report made fewer hops.
+        Check.is("promise 59: the origin, not via", Check.output(x), "abcdef/x 150-160@0!\na/z 5-5@12\na/x 5-100@12\n");
         Check.fails("promise 59: agent", x, Check.INDEX, () -> x.writeReports(3));
         Check.fails("promise 59: agent -1", x, Check.INDEX, () -> x.writeReports(-1));
     }
