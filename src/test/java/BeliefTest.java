@@ -100,6 +100,13 @@ public final class BeliefTest {
         Check.is("promise 20: trust 0 and the least trust 0", x.status(0, 1), 1);
         x.link(0, 1, false);
         Check.is("promise 20: no link and the least trust 0", x.status(0, 1), 2);
+        x.forget(0, 0);
+        x.setRule(2, 10);
+        x.share(2);
+        x.deliver(1);
+        Check.is("all are left out", x.reports(0) + " " + x.status(0, 0), "1 2");
+        Check.is("promise 23: all are left out", x.majority(0, 0), 0);
+        Check.is("promise 24: all are left out", x.majorityBound(0, 0, 0) + " " + x.majorityBound(0, 0, 1), "-1 -1");
     }
 
     private static void sets() {

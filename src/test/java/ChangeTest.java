@@ -77,6 +77,9 @@ public final class ChangeTest {
         Check.is("c's of x was a contradiction", x.trust(1, 0), 6);
         Check.is("promise 42: it is about the trust in a", x.probe(1, 1, 40, 50) + " " + x.trust(1, 0) + " "
                 + x.trust(1, 2), "1 4 5");
+        x.setTrust(1, 0, 10);
+        Check.is("promise 22: origins, not via", x.contradicted(1, 1), 4);
+        Check.is("promise 53: two hops", x.cleanse(1) + " " + Check.list(x, 1), "1 1 1 0 1 0 40 50;");
     }
 
     private static void share() {
