@@ -19,9 +19,9 @@ final class Check {
         }
     }
 
-    /** The call throws exactly this exception, and changes nothing. */
+    /** The call throws exactly this exception. That it changes nothing is looked at by Edge, on objects of its own. */
     static void fails(String what, PathTrust x, Class<?> due, Callable<?> call) {
-        String before = state(x);
+        int before = x.undoCount();
         Object got;
         try {
             got = call.call();
@@ -29,7 +29,7 @@ final class Check {
             got = e.getClass();
         }
         is(what, got, due);
-        is(what + " and then the state", state(x), before);
+        is(what + " and then what can be undone", x.undoCount(), before);
     }
 
     static void end(String test) {
@@ -89,8 +89,19 @@ final class Check {
         return text.toString();
     }
 
+    /** The number of bytes in the input buffer, by few calls, as an object is used for 512 at most. */
     static int inputLength(PathTrust x) {
-        for (int length = 600; length >= 0; length--) {
+        try {
+            int length = x.append(0, 0, 0, 0, 0) - 20;
+            x.truncate(length);
+            return length;
+        } catch (IllegalStateException e) {
+            return lengthFrom(x, 581);
+        }
+    }
+
+    private static int lengthFrom(PathTrust x, int least) {
+        for (int length = 600; length >= least; length--) {
             try {
                 x.truncate(length);
                 return length;
