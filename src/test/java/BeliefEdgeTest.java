@@ -259,7 +259,8 @@ public final class BeliefEdgeTest {
     static void promise23OneNumberInCommon() {
         Edge.is("one", told(3, "probe b u 10 20;probe c u 20 30;").majority(0, 0), 6);
         Edge.is("none", told(3, "probe b u 10 20;probe c u 21 30;").majority(0, 0), 2);
-        Edge.is("each with the next one", told(4, "probe b u 10 20;probe c u 20 30;probe d u 30 40;").majority(0, 0), 6);
+        PathTrust row = told(4, "probe b u 10 20;probe c u 20 30;probe d u 30 40;");
+        Edge.is("each with the next one", row.majority(0, 0), 6);
         Edge.is("three", told(4, "probe b u 10 20;probe c u 20 30;probe d u 0 20;").majority(0, 0), 14);
     }
 
@@ -270,6 +271,19 @@ public final class BeliefEdgeTest {
         Edge.is("b d is 10, a e is 17", x.majority(0, 0), 10);
         x = told(6, "probe f u 5 5;probe e u 6 6;probe d u 4 4;");
         Edge.is("of one each", x.majority(0, 0), 8);
+    }
+
+    static void promise23WhateverTheOrderOfTheList() {
+        PathTrust x = Edge.desk(3, 1, Edge.star(3, 5) + "probe b u 1 5;probe c u 6 9;");
+        x.share(1);
+        x.share(2);
+        x.deliver(2);
+        Edge.is("b's is ahead", x.majority(0, 0) + " " + bounds(x), "2 1 5");
+        x.forget(0, 0);
+        x.share(2);
+        x.share(1);
+        x.deliver(2);
+        Edge.is("c's is ahead", x.majority(0, 0) + " " + bounds(x), "2 1 5");
     }
 
     static void promise23TheMostBeforeTheLeast() {
@@ -307,6 +321,18 @@ public final class BeliefEdgeTest {
     static void promise24OneNumberInCommon() {
         Edge.is("20", bounds(told(3, "probe b u 10 20;probe c u 20 30;")), "20 20");
         Edge.is("of two sets that of the least one", bounds(told(3, "probe b u 10 20;probe c u 21 30;")), "10 20");
+    }
+
+    static void promise24WhateverTheOrderOfTheList() {
+        String probes = "probe b u 10 20;probe c u 0 19;probe d u 11 999;";
+        PathTrust x = told(4, probes);
+        Edge.is("d's is ahead", bounds(x), "11 19");
+        x = Edge.desk(4, 1, Edge.star(4, 5) + probes);
+        for (int agent : new int[] {2, 3, 1}) {
+            x.share(agent);
+        }
+        x.deliver(3);
+        Edge.is("c's is ahead", bounds(x), "11 19");
     }
 
     static void promise24ZeroAndNineHundredNinetyNine() {

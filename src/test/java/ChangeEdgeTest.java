@@ -4,14 +4,6 @@ public final class ChangeEdgeTest {
         Edge.runAll(ChangeEdgeTest.class);
     }
 
-    /** Agent a has b's report of 100 to 200, and trusts b so much. */
-    private static PathTrust heard(int trust) {
-        PathTrust x = Edge.desk(3, 2, "link a b trust " + trust + ";probe b u 100 200;");
-        x.share(1);
-        x.deliver(1);
-        return x;
-    }
-
     /** Three agents that are all linked. */
     private static PathTrust triangle(String probes) {
         return Edge.desk(3, 2, "link a b;link a c;link b c;" + probes);
@@ -42,7 +34,7 @@ public final class ChangeEdgeTest {
     }
 
     static void promise42OfThePresentTimeAtTheEnd() {
-        PathTrust x = heard(5);
+        PathTrust x = Edge.heard(5);
         x.pass(20);
         x.probe(0, 0, 0, 999);
         Edge.is("the first own one", Check.list(x, 0), "1 1 1 0 0 100 200;0 0 0 0 20 0 999;");
@@ -55,23 +47,23 @@ public final class ChangeEdgeTest {
         PathTrust x = Edge.desk(1, 1, "");
         Edge.is("an empty list", x.probe(0, 0, 5, 5), 0);
         Edge.is("its own one is not judged", x.probe(0, 0, 9, 9), 0);
-        Edge.is("a report of another way is not", heard(5).probe(0, 1, 0, 0), 0);
+        Edge.is("a report of another way is not", Edge.heard(5).probe(0, 1, 0, 0), 0);
         Edge.is("no judging", x.account(0, 0) + " " + x.account(0, 3) + " " + x.account(0, 4), "2 0 0");
     }
 
     static void promise42OneNumberInBoth() {
         for (int[] bounds : new int[][] {{200, 999}, {0, 100}, {200, 200}, {100, 100}, {0, 999}, {150, 150}}) {
-            PathTrust x = heard(5);
+            PathTrust x = Edge.heard(5);
             Edge.is(bounds[0] + " to " + bounds[1], x.probe(0, 0, bounds[0], bounds[1]) + " " + x.trust(0, 1), "0 6");
         }
         for (int[] bounds : new int[][] {{201, 999}, {0, 99}, {201, 201}, {99, 99}, {0, 0}, {999, 999}}) {
-            PathTrust x = heard(5);
+            PathTrust x = Edge.heard(5);
             Edge.is(bounds[0] + " to " + bounds[1], x.probe(0, 0, bounds[0], bounds[1]) + " " + x.trust(0, 1), "1 3");
         }
     }
 
     static void promise42MovedByDriftTimesAge() {
-        PathTrust x = heard(5);
+        PathTrust x = Edge.heard(5);
         x.setRule(0, 3);
         x.setRule(1, 50);
         x.pass(4);
@@ -84,7 +76,7 @@ public final class ChangeEdgeTest {
     static void promise42TrustNotBelowZero() {
         int[] then = {0, 0, 0, 1};
         for (int trust = 0; trust < 4; trust++) {
-            PathTrust x = heard(trust);
+            PathTrust x = Edge.heard(trust);
             Edge.is("from " + trust, x.probe(0, 0, 0, 0) + " " + x.trust(0, 1), "1 " + then[trust]);
         }
     }
@@ -92,19 +84,19 @@ public final class ChangeEdgeTest {
     static void promise42TrustAtMostTen() {
         int[] then = {9, 10, 10};
         for (int trust = 8; trust < 11; trust++) {
-            PathTrust x = heard(trust);
+            PathTrust x = Edge.heard(trust);
             Edge.is("from " + trust, x.probe(0, 0, 100, 100) + " " + x.trust(0, 1), "0 " + then[trust - 8]);
         }
     }
 
     static void promise42TheTrustOfTheOtherOneStays() {
-        PathTrust x = heard(5);
+        PathTrust x = Edge.heard(5);
         x.probe(0, 0, 0, 0);
         Edge.is("b's in a", x.trust(1, 0), 5);
     }
 
     static void promise42NothingHappensWithoutALink() {
-        PathTrust x = heard(5);
+        PathTrust x = Edge.heard(5);
         x.link(0, 1, false);
         Edge.is("a contradiction", x.probe(0, 0, 0, 0), 0);
         Edge.is("a confirmation", x.probe(0, 0, 100, 100), 0);
@@ -114,7 +106,7 @@ public final class ChangeEdgeTest {
     }
 
     static void promise42ThoughLeftOut() {
-        PathTrust x = heard(5);
+        PathTrust x = Edge.heard(5);
         x.setRule(2, 10);
         Edge.is(x.status(0, 0) + " " + x.probe(0, 0, 0, 0) + " " + x.trust(0, 1), "2 1 3");
     }
@@ -167,7 +159,7 @@ public final class ChangeEdgeTest {
     static void promise43NothingToShare() {
         Edge.is("no reports", Edge.desk(2, 1, "link a b;").share(0), 0);
         Edge.is("no neighbors", Edge.desk(2, 1, "probe a u 1 2;").share(0), 0);
-        PathTrust x = heard(5);
+        PathTrust x = Edge.heard(5);
         Edge.is("no own ones", x.share(0) + " " + x.property(8), "0 0");
     }
 
@@ -219,7 +211,7 @@ public final class ChangeEdgeTest {
     static void promise44NothingToRelay() {
         Edge.is("no reports", Edge.desk(2, 1, "link a b;").relay(0), 0);
         Edge.is("no neighbors", Edge.desk(2, 1, "probe a u 1 2;").relay(0), 0);
-        Edge.is("none but the origin", heard(5).relay(0), 0);
+        Edge.is("none but the origin", Edge.heard(5).relay(0), 0);
     }
 
     static void promise44FewerHopsThanTheRulesTell() {
@@ -650,7 +642,7 @@ public final class ChangeEdgeTest {
     }
 
     static void promise52None() {
-        PathTrust x = heard(5);
+        PathTrust x = Edge.heard(5);
         Edge.is("of this way", x.forget(0, 1) + " " + x.reports(0), "0 1");
         Edge.is("an empty list", x.forget(2, 0), 0);
         Edge.is("they can be undone", x.undoCount(), 5);

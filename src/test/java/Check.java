@@ -32,6 +32,21 @@ final class Check {
         is(what + " and then what can be undone", x.undoCount(), before);
     }
 
+    /** A call that does not end is a fault, too. */
+    static void limit() {
+        Thread watch = new Thread(() -> {
+            try {
+                Thread.sleep(300000);
+            } catch (InterruptedException e) {
+                return;
+            }
+            System.out.println("a call does not end");
+            Runtime.getRuntime().halt(1);
+        });
+        watch.setDaemon(true);
+        watch.start();
+    }
+
     static void end(String test) {
         System.out.println(test + (wrong == 0 ? ": all answers are as due" : ": " + wrong + " answers are not as due"));
         if (wrong != 0) {

@@ -12,6 +12,9 @@ final class Edge {
     /** Rules by which nothing moves, nobody is left out, and reports make three hops. */
     static final String STILL = "rules drift 0 slack 0 least 0 age 20 hops 3;";
 
+    static final String[] KEYWORDS = {"rules", "drift", "slack", "least", "age", "hops", "agent", "way", "link",
+        "trust", "probe"};
+
     private static String test = "";
 
     interface Make {
@@ -42,6 +45,7 @@ final class Edge {
     }
 
     static void runAll(Class<?> type) throws Exception {
+        Check.limit();
         for (Method m : tests(type)) {
             test = m.getName();
             m.invoke(null);
@@ -116,6 +120,14 @@ final class Edge {
         return x;
     }
 
+    /** Agent a has b's report of 100 to 200, and trusts b so much. */
+    static PathTrust heard(int trust) {
+        PathTrust x = desk(3, 2, "link a b trust " + trust + ";probe b u 100 200;");
+        x.share(1);
+        x.deliver(1);
+        return x;
+    }
+
     /** A desk with a full queue: a hundred messages from a to b, all of one probe. */
     static PathTrust full() {
         PathTrust x = desk(2, 1, "link a b;probe a u 5 9;");
@@ -160,9 +172,13 @@ final class Edge {
         }
     }
 
+    /** Stops behind a value that is not refused, as a far greater one might keep the call busy for long. */
     private static void refusesEach(Class<?> due, CallOf call, int... values) {
-        for (int value : values) {
+        boolean refused = true;
+        for (int i = 0; i < values.length && refused; i++) {
+            int value = values[i];
             refuses("" + value, Edge::busy, due, x -> call.on(x, value));
+            refused = due.equals(thrown(busy(), x -> call.on(x, value)));
         }
     }
 

@@ -5,8 +5,8 @@ import java.util.TreeMap;
 
 /** Each promise has tests of its edges, and no two of them bear the same name. */
 public final class EdgeListTest {
-    private static final Class<?>[] EDGES = {InputEdgeTest.class, AgentsEdgeTest.class, BeliefEdgeTest.class,
-        ForecastEdgeTest.class, ChangeEdgeTest.class, UndoEdgeTest.class, OutputEdgeTest.class};
+    private static final Class<?>[] EDGES = {InputEdgeTest.class, TextEdgeTest.class, AgentsEdgeTest.class,
+        BeliefEdgeTest.class, ForecastEdgeTest.class, ChangeEdgeTest.class, UndoEdgeTest.class, OutputEdgeTest.class};
 
     public static void main(String[] args) {
         TreeMap<Integer, List<String>> found = new TreeMap<>();

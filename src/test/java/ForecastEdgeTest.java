@@ -6,14 +6,6 @@ public final class ForecastEdgeTest {
         Edge.runAll(ForecastEdgeTest.class);
     }
 
-    /** Agent a has b's report of 100 to 200, and trusts b so much. */
-    private static PathTrust heard(int trust) {
-        PathTrust x = Edge.desk(3, 2, "link a b trust " + trust + ";probe b u 100 200;");
-        x.share(1);
-        x.deliver(1);
-        return x;
-    }
-
     private static String beliefIf(PathTrust x, int low, int high) {
         return x.beliefIf(0, 0, low, high, 0) + "-" + x.beliefIf(0, 0, low, high, 1);
     }
@@ -55,14 +47,14 @@ public final class ForecastEdgeTest {
     }
 
     static void promise35OneNumberInCommon() {
-        Edge.is("200", beliefIf(heard(5), 200, 300), "200-200");
-        Edge.is("201", beliefIf(heard(5), 201, 300), "201-300");
-        Edge.is("100", beliefIf(heard(5), 0, 100), "100-100");
-        Edge.is("99", beliefIf(heard(5), 0, 99), "0-99");
+        Edge.is("200", beliefIf(Edge.heard(5), 200, 300), "200-200");
+        Edge.is("201", beliefIf(Edge.heard(5), 201, 300), "201-300");
+        Edge.is("100", beliefIf(Edge.heard(5), 0, 100), "100-100");
+        Edge.is("99", beliefIf(Edge.heard(5), 0, 99), "0-99");
     }
 
     static void promise35InPlaceOfTheOwnOne() {
-        PathTrust x = heard(5);
+        PathTrust x = Edge.heard(5);
         x.probe(0, 0, 100, 110);
         Edge.is("now", Check.belief(x, 0, 0), "100-110");
         Edge.is("then", beliefIf(x, 120, 130), "120-130");
@@ -70,7 +62,7 @@ public final class ForecastEdgeTest {
     }
 
     static void promise35WithTheTrustThatItWouldHave() {
-        PathTrust x = heard(5);
+        PathTrust x = Edge.heard(5);
         x.setRule(1, 10);
         Edge.is("now, 10 * 5", Check.belief(x, 0, 0), "50-250");
         Edge.is("then, 10 * 4", beliefIf(x, 0, 200), "60-200");
@@ -110,7 +102,7 @@ public final class ForecastEdgeTest {
     }
 
     static void promise36NoLink() {
-        PathTrust x = heard(5);
+        PathTrust x = Edge.heard(5);
         Edge.is("never", x.trustIf(0, 0, 100, 100, 2), NONE);
         Edge.is("itself", x.trustIf(0, 0, 100, 100, 0), NONE);
         x.link(0, 1, false);
@@ -118,28 +110,28 @@ public final class ForecastEdgeTest {
     }
 
     static void promise36OneNumberInCommon() {
-        Edge.is("200", heard(5).trustIf(0, 0, 200, 999, 1), 6);
-        Edge.is("201", heard(5).trustIf(0, 0, 201, 999, 1), 3);
-        Edge.is("100", heard(5).trustIf(0, 0, 0, 100, 1), 6);
-        Edge.is("99", heard(5).trustIf(0, 0, 0, 99, 1), 3);
+        Edge.is("200", Edge.heard(5).trustIf(0, 0, 200, 999, 1), 6);
+        Edge.is("201", Edge.heard(5).trustIf(0, 0, 201, 999, 1), 3);
+        Edge.is("100", Edge.heard(5).trustIf(0, 0, 0, 100, 1), 6);
+        Edge.is("99", Edge.heard(5).trustIf(0, 0, 0, 99, 1), 3);
     }
 
     static void promise36NotBelowZero() {
-        Edge.is("3", heard(3).trustIf(0, 0, 0, 0, 1), 1);
-        Edge.is("2", heard(2).trustIf(0, 0, 0, 0, 1), 0);
-        Edge.is("1", heard(1).trustIf(0, 0, 0, 0, 1), 0);
-        Edge.is("0", heard(0).trustIf(0, 0, 0, 0, 1), 0);
+        Edge.is("3", Edge.heard(3).trustIf(0, 0, 0, 0, 1), 1);
+        Edge.is("2", Edge.heard(2).trustIf(0, 0, 0, 0, 1), 0);
+        Edge.is("1", Edge.heard(1).trustIf(0, 0, 0, 0, 1), 0);
+        Edge.is("0", Edge.heard(0).trustIf(0, 0, 0, 0, 1), 0);
     }
 
     static void promise36AtMostTen() {
-        Edge.is("8", heard(8).trustIf(0, 0, 100, 100, 1), 9);
-        Edge.is("9", heard(9).trustIf(0, 0, 100, 100, 1), 10);
-        Edge.is("10", heard(10).trustIf(0, 0, 100, 100, 1), 10);
+        Edge.is("8", Edge.heard(8).trustIf(0, 0, 100, 100, 1), 9);
+        Edge.is("9", Edge.heard(9).trustIf(0, 0, 100, 100, 1), 10);
+        Edge.is("10", Edge.heard(10).trustIf(0, 0, 100, 100, 1), 10);
     }
 
     static void promise36AnotherWayOrAgent() {
-        Edge.is("no report of the way", heard(5).trustIf(0, 1, 0, 0, 1), 5);
-        Edge.is("no report of another one", heard(5).trustIf(1, 0, 0, 0, 0), 5);
+        Edge.is("no report of the way", Edge.heard(5).trustIf(0, 1, 0, 0, 1), 5);
+        Edge.is("no report of another one", Edge.heard(5).trustIf(1, 0, 0, 0, 0), 5);
     }
 
     // Promise 37.
@@ -268,7 +260,7 @@ public final class ForecastEdgeTest {
     }
 
     static void promise39NoReports() {
-        PathTrust x = heard(5);
+        PathTrust x = Edge.heard(5);
         Edge.is("none via c", x.widthWithout(0, 0, 2), 100);
         Edge.is("none but via b", x.widthWithout(0, 0, 1), 999);
         Edge.is("none at all", x.widthWithout(2, 1, 0), 999);
@@ -302,8 +294,8 @@ public final class ForecastEdgeTest {
     }
 
     static void promise40NoNeighbors() {
-        Edge.is("never", heard(5).mostUseful(2), NONE);
-        PathTrust x = heard(5);
+        Edge.is("never", Edge.heard(5).mostUseful(2), NONE);
+        PathTrust x = Edge.heard(5);
         x.link(0, 1, false);
         Edge.is("not any more", x.mostUseful(0), NONE);
         Edge.is("alone", Edge.desk(1, 1, "").mostUseful(0), NONE);
@@ -328,6 +320,28 @@ public final class ForecastEdgeTest {
         x.share(2);
         x.deliver(2);
         Edge.is("without b 999 + 9, without c 10 + 999", x.mostUseful(0), 2);
+    }
+
+    static void promise40TheFirstAndTheLastNeighbor() {
+        PathTrust x = Edge.desk(6, 1, "link f a;link f e;link f c;probe a u 10 20;probe e u 10 30;");
+        Edge.is("all alike", x.mostUseful(5), 0);
+        x.share(0);
+        x.deliver(1);
+        x.share(4);
+        x.deliver(1);
+        Edge.is("without a 20, without e 10", x.mostUseful(5), 0);
+        x.setTrust(5, 0, 0);
+        x.setRule(2, 1);
+        Edge.is("without a 20, without e 999", x.mostUseful(5), 4);
+    }
+
+    static void promise40HowFarTheBoundsAreApart() {
+        // Without b 900 to 950, without c 100 to 200: the farther ones have the lesser sum.
+        PathTrust x = Edge.desk(3, 1, Edge.star(3, 5) + "probe b u 100 200;probe c u 900 950;");
+        x.share(1);
+        x.share(2);
+        x.deliver(2);
+        Edge.is(x.mostUseful(0), 2);
     }
 
     static void promise40NoWays() {
