@@ -323,6 +323,15 @@ public final class BeliefEdgeTest {
         Edge.is("of two sets that of the least one", bounds(told(3, "probe b u 10 20;probe c u 21 30;")), "10 20");
     }
 
+    static void promise24BehindAQuestionOfAnotherWay() {
+        PathTrust x = told(4, "probe b u 10 20;probe c u 10 20;probe b v 500 500;probe c v 500 500;probe d v 500 500;");
+        Edge.is("three reports", x.majorityBound(0, 1, 0) + " " + x.majority(0, 1), "500 14");
+        Edge.is("two reports, of less", bounds(x) + " " + x.majority(0, 0), "10 20 6");
+        x = told(4, "probe b u 710 720;probe c u 710 720;probe b v 500 500;probe c v 500 500;probe d v 500 500;");
+        Edge.is("three reports", x.majorityBound(0, 1, 1) + " " + x.majority(0, 1), "500 14");
+        Edge.is("two reports, of more", bounds(x) + " " + x.majority(0, 0), "710 720 6");
+    }
+
     static void promise24WhateverTheOrderOfTheList() {
         String probes = "probe b u 10 20;probe c u 0 19;probe d u 11 999;";
         PathTrust x = told(4, probes);
