@@ -71,13 +71,13 @@ public final class InputEdgeTest {
             x -> x.trust(0, 0), x -> x.neighbors(0), x -> x.distance(0, 0), x -> x.bottleneck(0, 0),
             x -> x.mostTrusted(0), x -> x.reports(0), x -> x.report(0, 0, 0), x -> x.status(0, 0),
             x -> x.moved(0, 0, 0), x -> x.own(0, 0), x -> x.belief(0, 0, 0), x -> x.sources(0, 0),
-            x -> x.contradicted(0, 0), x -> x.majority(0, 0), x -> x.majorityBound(0, 0, 0), x -> x.best(0, 0), x -> x.rivals(0),
-            x -> x.nextProbe(0), x -> x.regret(0), x -> x.saved(0), x -> x.agreeing(0, 0), x -> x.common(0, 0),
-            x -> x.account(0, 0), x -> x.standing(0), x -> x.beliefIf(0, 0, 0, 0, 0), x -> x.trustIf(0, 0, 0, 0, 0),
-            x -> x.informed(0, 0, 0), x -> x.widthAfter(0, 0, 0), x -> x.widthWithout(0, 0, 0), x -> x.mostUseful(0),
-            x -> x.bestThen(0), x -> x.probe(0, 0, 0, 0), x -> x.share(0), x -> x.relay(0), x -> x.link(0, 1, true),
-            x -> x.setTrust(0, 1, 0), x -> x.forget(0, 0), x -> x.cleanse(0), x -> x.writeBeliefs(0),
-            x -> x.writeReports(0),
+            x -> x.contradicted(0, 0), x -> x.majority(0, 0), x -> x.majorityBound(0, 0, 0), x -> x.best(0, 0),
+            x -> x.rivals(0), x -> x.nextProbe(0), x -> x.regret(0), x -> x.saved(0), x -> x.agreeing(0, 0),
+            x -> x.common(0, 0), x -> x.account(0, 0), x -> x.standing(0), x -> x.beliefIf(0, 0, 0, 0, 0),
+            x -> x.trustIf(0, 0, 0, 0, 0), x -> x.informed(0, 0, 0), x -> x.widthAfter(0, 0, 0),
+            x -> x.widthWithout(0, 0, 0), x -> x.mostUseful(0), x -> x.bestThen(0), x -> x.probe(0, 0, 0, 0),
+            x -> x.share(0), x -> x.relay(0), x -> x.link(0, 1, true), x -> x.setTrust(0, 1, 0), x -> x.forget(0, 0),
+            x -> x.cleanse(0), x -> x.writeBeliefs(0), x -> x.writeReports(0),
         };
         for (int i = 0; i < calls.length; i++) {
             Edge.refuses("call " + i, PathTrust::new, Check.INDEX, calls[i]);
