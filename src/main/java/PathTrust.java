@@ -74,8 +74,8 @@ public final class PathTrust {
     private static final int WRONG_NAME = 3;
     private static final int TOO_MANY = 4;
 
-    private final Bytes input = new Bytes(MOST_INPUT);
-    private final Bytes output = new Bytes(MOST_OUTPUT);
+    private final Buffer input = new Buffer(MOST_INPUT);
+    private final Buffer output = new Buffer(MOST_OUTPUT);
     private final View view = new View();
     private final Desk now = new Desk();
     // Texts are parsed and questions of what would be are tried out here, so that the desk itself stays as it is.
@@ -232,14 +232,14 @@ public final class PathTrust {
         if (via != agent && !now.isLinked(agent, via)) {
             return NONE;
         }
-        int spread = now.spreadOf(agent, index);
+        int spread = now.beliefSpread(agent, index);
         return end == LOW_END ? list.lowMoved(index, spread) : list.highMoved(index, spread);
     }
 
     public int own(int agent, int way) throws IndexOutOfBoundsException {
         checkAgent(agent);
         checkWay(way);
-        return now.listOf(agent).find(agent, way);
+        return now.listOf(agent).rowOf(agent, way);
     }
 
     public int belief(int agent, int way, int end) throws IndexOutOfBoundsException, IllegalArgumentException {
@@ -324,7 +324,7 @@ public final class PathTrust {
         checkAgent(agent);
         int count = 0;
         for (int way = 0; way < now.ways.count; way++) {
-            if (now.listOf(agent).find(agent, way) == NONE && widthOf(now, agent, way, NONE) != TOP_BOUND) {
+            if (now.listOf(agent).rowOf(agent, way) == NONE && widthOf(now, agent, way, NONE) != TOP_BOUND) {
                 count++;
             }
         }
@@ -353,7 +353,7 @@ public final class PathTrust {
         int high = TOP_BOUND;
         for (int agent = 0; agent < now.agents.count; agent++) {
             Reports list = now.listOf(agent);
-            int row = list.find(agent, way);
+            int row = list.rowOf(agent, way);
             if (row != NONE) {
                 int spread = now.driftOf(list, row);
                 found = true;
@@ -390,7 +390,7 @@ public final class PathTrust {
             case 4:
                 return now.queue.get(index, R_WAY);
             default:
-                return now.refusal(index);
+                return now.reasonToRefuse(index);
         }
     }
 
@@ -437,7 +437,7 @@ public final class PathTrust {
         trial.makeRounds(rounds);
         int set = 0;
         for (int other = 0; other < trial.agents.count; other++) {
-            if (trial.listOf(other).find(agent, way) != NONE) {
+            if (trial.listOf(other).rowOf(agent, way) != NONE) {
                 set |= 1 << other;
             }
         }
@@ -787,12 +787,11 @@ public final class PathTrust {
         }
     }
 
-    /** The input buffer, or the output buffer. */
-    private static final class Bytes {
+    private static final class Buffer {
         private final byte[] bytes;
         private int length;
 
-        private Bytes(int most) {
+        private Buffer(int most) {
             bytes = new byte[most < 0 ? 0 : most];
         }
 
@@ -852,7 +851,6 @@ public final class PathTrust {
         }
     }
 
-    /** The names of the agents, or of the ways. */
     private static final class Names {
         private final int[] codes = new int[MOST_NAMES];
         private int count;
@@ -883,7 +881,7 @@ public final class PathTrust {
         }
     }
 
-    /** Reports in their order: the list of an agent, or the queue, in which each has its goal, too. */
+    /** The queue is one of these, too, as the list of an agent is; its reports alone have a goal. */
     private static final class Reports {
         private final int[] cells;
         private int count;
@@ -914,8 +912,7 @@ public final class PathTrust {
             }
         }
 
-        /** The report about the way by this origin, of which there is at most one; NONE without one. */
-        private int find(int origin, int way) {
+        private int rowOf(int origin, int way) {
             for (int row = 0; row < count; row++) {
                 if (get(row, R_ORIGIN) == origin && get(row, R_WAY) == way) {
                     return row;
@@ -924,7 +921,6 @@ public final class PathTrust {
             return NONE;
         }
 
-        /** Makes room for a report at the end; NONE if there is none. */
         private int addRow() {
             if (isFull()) {
                 return NONE;
@@ -961,7 +957,6 @@ public final class PathTrust {
             }
         }
 
-        /** Removes the reports about a way whose origins are in the set, and returns how many there were. */
         private int removeAll(int way, int origins) {
             int before = count;
             for (int row = before - 1; row >= 0; row--) {
@@ -1088,12 +1083,11 @@ public final class PathTrust {
             return count;
         }
 
-        /** A set of agents and those that one link of at least this trust takes them to. */
-        private int reachedFrom(int set, int least) {
+        private int reachedFrom(int set, int leastTrust) {
             int reached = set;
             for (int agent = 0; agent < agents.count; agent++) {
                 for (int other = 0; other < agents.count; other++) {
-                    if (contains(set, agent) && trustIn(agent, other) >= least) {
+                    if (contains(set, agent) && trustIn(agent, other) >= leastTrust) {
                         reached |= 1 << other;
                     }
                 }
@@ -1126,8 +1120,7 @@ public final class PathTrust {
             return rule(DRIFT) * (time - list.get(row, R_TIME));
         }
 
-        /** How far the bounds of a report are moved when beliefs are put together. */
-        private int spreadOf(int agent, int row) {
+        private int beliefSpread(int agent, int row) {
             Reports list = listOf(agent);
             int via = list.get(row, R_VIA);
             int spread = driftOf(list, row);
@@ -1139,7 +1132,7 @@ public final class PathTrust {
 
         private int makeProbe(int agent, int way, int low, int high) {
             Reports list = listOf(agent);
-            list.removeRow(list.find(agent, way));
+            list.removeRow(list.rowOf(agent, way));
             int own = list.addRow();
             list.put(own, R_ORIGIN, agent);
             list.put(own, R_VIA, agent);
@@ -1158,7 +1151,7 @@ public final class PathTrust {
             return contradictions;
         }
 
-        /** Judges a report by an own one, and returns whether that was a contradiction. */
+        /** Answers whether it was a contradiction, as probe() tells how many there were. */
         private boolean judge(int agent, int row, int own) {
             Reports list = listOf(agent);
             int via = list.get(row, R_VIA);
@@ -1176,12 +1169,12 @@ public final class PathTrust {
             return contradiction;
         }
 
-        /** Sends the reports that made fewer hops than these; fewer than one has none but an own report. */
-        private int sendReports(int agent, int hops) {
+        /** An own report is one that made fewer hops than one, so share() and relay() differ in this number alone. */
+        private int sendReports(int agent, int fewerThan) {
             Reports list = listOf(agent);
             int before = queue.count;
             for (int row = 0; row < list.count; row++) {
-                if (list.get(row, R_HOPS) < hops) {
+                if (list.get(row, R_HOPS) < fewerThan) {
                     sendReport(agent, list, row);
                 }
             }
@@ -1200,8 +1193,7 @@ public final class PathTrust {
             }
         }
 
-        /** The reason for which a message would be refused now, 0 without one. */
-        private int refusal(int index) {
+        private int reasonToRefuse(int index) {
             int goal = queue.get(index, R_GOAL);
             if (!isLinked(goal, queue.get(index, R_VIA))) {
                 return 1;
@@ -1210,7 +1202,7 @@ public final class PathTrust {
                 return 2;
             }
             Reports list = listOf(goal);
-            int row = list.find(queue.get(index, R_ORIGIN), queue.get(index, R_WAY));
+            int row = list.rowOf(queue.get(index, R_ORIGIN), queue.get(index, R_WAY));
             if (row == NONE) {
                 return 0;
             }
@@ -1231,19 +1223,19 @@ public final class PathTrust {
             return accepted;
         }
 
-        /** Delivers a message, and returns whether it was not refused. */
+        /** Answers whether the message was not refused, as deliver() tells how many were not. */
         private boolean receive(int index) {
             int goal = queue.get(index, R_GOAL);
-            if (refusal(index) != 0) {
+            if (reasonToRefuse(index) != 0) {
                 tally(goal, REFUSED);
                 return false;
             }
             tally(goal, ACCEPTED);
             int way = queue.get(index, R_WAY);
             Reports list = listOf(goal);
-            list.removeRow(list.find(queue.get(index, R_ORIGIN), way));
+            list.removeRow(list.rowOf(queue.get(index, R_ORIGIN), way));
             int row = list.addCopy(queue, index);
-            int own = list.find(goal, way);
+            int own = list.rowOf(goal, way);
             if (own != NONE) {
                 judge(goal, row, own);
             }
@@ -1277,7 +1269,7 @@ public final class PathTrust {
         }
     }
 
-    /** What an agent believes of a way, and what became of its reports of the way in that. */
+    /** A belief is put together anew for each question, so that none is ever out of date. */
     private static final class View {
         private final int[] rows = new int[MOST_NAMES];
         private final int[] origins = new int[MOST_NAMES];
@@ -1289,7 +1281,7 @@ public final class PathTrust {
         private int low;
         private int high;
 
-        /** Puts a belief together, without the reports that came via one agent (NONE: with all). */
+        /** Reports that came via one agent can be passed over (NONE: none), so that no desk without them is needed. */
         private void form(Desk desk, int agent, int way, int without) {
             count = 0;
             low = 0;
@@ -1313,10 +1305,11 @@ public final class PathTrust {
             Reports list = desk.listOf(agent);
             int via = list.get(row, R_VIA);
             int trust = via == agent ? TOP_TRUST + 1 : desk.trustIn(agent, via);
-            int spread = desk.spreadOf(agent, row);
+            int spread = desk.beliefSpread(agent, row);
             boolean leftOut = trust == NONE || trust < desk.rule(LEAST);
             rows[place] = row;
             origins[place] = list.get(row, R_ORIGIN);
+            // Hops and origins are below ten, so that one number has all three in their order.
             ranks[place] = (TOP_TRUST - trust) * 100 + list.get(row, R_HOPS) * 10 + origins[place];
             lows[place] = list.lowMoved(row, spread);
             highs[place] = list.highMoved(row, spread);
@@ -1369,7 +1362,6 @@ public final class PathTrust {
             return set;
         }
 
-        /** The most origins whose reports have a number in common, the least set of several. */
         private int largestSet() {
             int largest = 0;
             for (int i = 0; i < count && i < MOST_NAMES; i++) {
@@ -1414,7 +1406,7 @@ public final class PathTrust {
         }
     }
 
-    /** The desks before the calls that can be undone, the oldest first. */
+    /** Its desks are made once and written over in turn, as nothing that was made is ever given back. */
     private static final class History {
         private final Desk[] desks = new Desk[MOST_UNDO];
         private int count;
@@ -1455,9 +1447,9 @@ public final class PathTrust {
         }
     }
 
-    /** Reads a text of statements; a method that reads something returns false behind the first error. */
+    /** As reading stops at the first error, each method that reads answers false behind one. */
     private static final class Parser {
-        private final Bytes text;
+        private final Buffer text;
         private final Desk desk;
         private int kind;
         private int start;
@@ -1466,12 +1458,11 @@ public final class PathTrust {
         private int code;
         private int position = NONE;
 
-        private Parser(Bytes text, Desk desk) {
+        private Parser(Buffer text, Desk desk) {
             this.text = text;
             this.desk = desk;
         }
 
-        /** Reads the whole text into the desk, and returns whether it has no error. */
         private boolean parse() {
             end = 0;
             code = 0;
@@ -1615,7 +1606,6 @@ public final class PathTrust {
             return true;
         }
 
-        /** Whether the token is one of these names, whose number is the value then. */
         private boolean isNameOf(Names names) {
             if (!isName()) {
                 return fail(CANNOT_STAND);
